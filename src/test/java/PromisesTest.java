@@ -606,6 +606,17 @@ public final class PromisesTest {
         x.here(0, 4, true);
         x.night(0, 5, 1);
         due("a bill by law", x.told(0, 3), 7000 + 3000 + 500 + 4);
+        due("none of MOVES in it", x.told(0, 2), 0);
+        TideGuests y = under(2, 2, "bars minute/2*2=minute;bill moves*10+wet;");
+        plain(y, 1);
+        y.perch(50, 1);
+        y.night(720, 723, 1);
+        due("MOVES in it", y.told(0, 3), 3 * 10 + 1);
+        y.image();
+        y.night(720, 720, 1);
+        due("none of that", y.told(0, 3), 0);
+        y.back();
+        due("MOVES are back", y.told(0, 2), 3);
         law(x, "tide 1;bill 9999*9999;");
         due("at most", x.told(0, 3), 999999);
         law(x, "tide 1;bill 0-crabs;");
@@ -698,6 +709,29 @@ public final class PromisesTest {
         x.here(0, 0, false);
         due("whether HERE or not", x.way(0, 9, -1), 1);
         lowestWay();
+        farWay();
+    }
+
+    private static void farWay() {
+        TideGuests x = under(6, 6, "tide 38-minute;");
+        x.guest(1, 0, false, 0, 0, 1, 30);
+        x.guest(1, 0, false, 0, 0, 1, 0);
+        x.cell(0, 99, false);
+        x.cell(1, 99, false);
+        x.cell(2, 0, true);
+        due("as many as there are CELLS", x.way(1, 2, -1), 36);
+        due("the first of them", x.way(1, 2, 0), 1);
+        due("the 34th", x.way(1, 2, 33), 0);
+        due("the last of them", x.way(1, 2, 35), 2);
+        due("none more", x.way(1, 2, 36), -1);
+        due("more than there are", x.way(1, 1, -1), -1);
+        due("much more", x.way(1, 0, -1), -1);
+        x.cell(2, 99, true);
+        law(x, "tide 129;");
+        due("up to HEIGHT and WADES", x.way(0, 0, -1), 2);
+        due("who doesn't wade", x.way(1, 0, -1), -1);
+        law(x, "tide 130;");
+        due("above them", x.way(0, 0, -1), -1);
     }
 
     private static void lowestWay() {

@@ -153,6 +153,23 @@ public final class RandomRunsTest {
         }
     }
 
+    /** A clause by which much differs: who moves, who quarrels, who is barred, what it costs. */
+    private String telling(int kind) {
+        switch (kind) {
+            case 1:
+                return pick(2) == 0 ? "wish (minute-" + (200 + pick(300)) + ")*high+fear*with*" + pick(99) + ";"
+                    : "wish (level-" + pick(60) + ")*(" + pick(60) + "-high)-with*rank*" + pick(40) + ";";
+            case 2:
+                return "bill wet*" + pick(9) + "+moves*" + (1 + pick(500)) + "+crabs*" + pick(3) + "+bag*rank;";
+            case 3:
+                return pick(2) == 0 ? "raft doors*doors*" + (1 + pick(60)) + ";" : "raft (doors-" + pick(9) + ")*" + pick(150) + ";";
+            case 4:
+                return pick(2) == 0 ? "bars high<level;" : "bars minute/" + (1 + pick(40)) + "=bag or with>rank/3 and swim=0;";
+            default:
+                return pick(2) == 0 ? "quarrel rank>other+" + pick(4) + ";" : "quarrel fear>" + pick(9) + " and other#rank;";
+        }
+    }
+
     /** About as many signs open around one another as may be. */
     private String deep(int kind) {
         int all = 6 + pick(4);
@@ -221,6 +238,8 @@ public final class RandomRunsTest {
             }
             if (kind == 0) {
                 s.append(tide());
+            } else if (pick(3) == 0) {
+                s.append(telling(kind));
             } else {
                 s.append(CLAUSES[kind]).append(' ').append(kind < 4 ? sum(kind, 2) : either(kind));
                 s.append(';').append(gap());
