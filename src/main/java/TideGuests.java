@@ -1120,7 +1120,8 @@ public final class TideGuests {
 
     /** The texts, and what THE TEXT says of the house. */
     private static final class Laws {
-        static final int BARRED = Integer.MIN_VALUE;
+        /** No wish is so low. */
+        static final int BARRED = -2000000;
         private static final int UNKNOWN = -1;
         private static final int MOST = 1000000;
         /** Eight brackets, two waiting in each, and what asks wait for: 24 are enough. */

@@ -66,7 +66,7 @@ public final class RulesTest {
             rule(4, "java.util.Arrays".equals(m.group(1)), m.group());
         }
         m = Pattern.compile("\\b(Arrays|Math|Integer|Long|System)\\.(\\w+)").matcher(bare);
-        Set<String> allowed = Set.of("Arrays.fill", "Math.max", "Math.min", "Math.abs", "Integer.bitCount", "Integer.MIN_VALUE",
+        Set<String> allowed = Set.of("Arrays.fill", "Math.max", "Math.min", "Math.abs", "Integer.bitCount",
             "Long.lowestOneBit", "Long.numberOfTrailingZeros", "System.arraycopy");
         while (m.find()) {
             rule(4, allowed.contains(m.group()), m.group());
